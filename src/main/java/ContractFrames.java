@@ -481,6 +481,7 @@ public final class ContractFrames {
             return threw != Thrown.NOTHING;
         }
 
+        /** Needs no test of the height, nor does take: Code.fitsStack is asked ahead of every step. */
         void put(int number) {
             stack[height] = number;
             height++;
@@ -599,11 +600,19 @@ public final class ContractFrames {
         private static void combine(Frame frame, int code) {
             int y = frame.take();
             int x = frame.take();
-            if (code == Code.BY && y == 0) {
-                frame.endThrowing(Thrown.BY_ZERO);
-                return;
+            if (code == Code.BY) {
+                divide(frame, x, y);
+            } else {
+                frame.put(combined(code, x, y));
             }
-            frame.put(combined(code, x, y));
+        }
+
+        private static void divide(Frame frame, int x, int y) {
+            if (y == 0) {
+                frame.endThrowing(Thrown.BY_ZERO);
+            } else {
+                frame.put(x / y);
+            }
         }
 
         private static int combined(int code, int x, int y) {
@@ -611,7 +620,6 @@ public final class ContractFrames {
                 case Code.PLUS: return x + y;
                 case Code.MINUS: return x - y;
                 case Code.TIMES: return x * y;
-                case Code.BY: return y == 0 ? 0 : x / y;
                 case Code.BELOW: return x < y ? 1 : 0;
                 default: return x == y ? 1 : 0;
             }

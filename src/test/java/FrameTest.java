@@ -21,6 +21,8 @@ public final class FrameTest {
     Due.is("OUTSIDE ahead of NONE", s.x.frame(5, 7), Scene.OUTSIDE);
     s.gives(2, 2, 0, 0, -4);
     row(s, 0, 2, 2, 1, 2, 0, -4, 0);
+    s.throwsOut(2, 0, 0, 0, 13);
+    row(s, 0, 2, 0, 1, 2, 13, 0, 0);
     Due.is("frame 1 of the later call", s.x.frame(1, 0), Scene.NONE);
     Due.is("refused", s.x.call(0, 0, 3, 0, 0, 9), Scene.STATE);
     Due.is("frame 0 is still there", s.x.frame(0, 0), 2);

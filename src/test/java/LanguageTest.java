@@ -82,9 +82,11 @@ public final class LanguageTest {
         + "|hashCode|toString|Exact)\\b|->|::").matcher(source);
     while (forbidden.find()) holds("no " + forbidden.group(), false);
     Matcher imports = Pattern.compile("import +([^;]*);").matcher(source);
-    while (imports.find()) holds("import of " + imports.group(1), List.of("java.util.Arrays", "java.util.ArrayList", "java.util.List").contains(imports.group(1)));
+    List<String> importable = List.of("java.util.Arrays", "java.util.ArrayList", "java.util.List");
+    while (imports.find()) holds("import of " + imports.group(1), importable.contains(imports.group(1)));
     Matcher library = Pattern.compile("(?<!util\\.)\\b(System|Arrays)\\.(\\w+)").matcher(source);
-    while (library.find()) holds(library.group(), List.of("arraycopy", "fill", "copyOf", "copyOfRange").contains(library.group(2)));
+    List<String> callable = List.of("arraycopy", "fill", "copyOf", "copyOfRange");
+    while (library.find()) holds(library.group(), callable.contains(library.group(2)));
   }
 
   public static void main(String[] args) throws IOException {

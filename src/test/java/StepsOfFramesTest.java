@@ -24,6 +24,8 @@ public final class StepsOfFramesTest {
     Scene.gives("PUSH 7; PUSH 3; TIMES; GIVE", 0, 0, 21);
     Scene.gives("PUSH 7; PUSH 3; BY; GIVE", 0, 0, 2);
     Scene.gives("PUSH -7; PUSH 3; BY; GIVE", 0, 0, -2);
+    Scene.gives("PUSH 7; PUSH 1; BY; GIVE", 0, 0, 7);
+    Scene.gives("PUSH 7; PUSH -1; BY; GIVE", 0, 0, -7);
     Scene.gives("PUSH 7; PUSH -3; BY; GIVE", 0, 0, -2);
     Scene.gives("PUSH 2147483647; PUSH 1; PLUS; GIVE", 0, 0, Integer.MIN_VALUE);
     Scene.gives("PUSH -2147483648; PUSH 1; MINUS; GIVE", 0, 0, Integer.MAX_VALUE);
@@ -91,6 +93,47 @@ public final class StepsOfFramesTest {
     Scene.throwsOut(EIGHT + "; THROW 17", 17);
   }
 
+  /** These steps leave so many numbers: there is room for the rest of eight, and no more. */
+  private static void leaves(String steps, int height) {
+    String full = steps + "; PUSH 0".repeat(8 - height);
+    Scene room = Scene.ofSteps(full).member(0, 1, "PUSH 5; GIVE").member(0, 2, "THROW 10");
+    room.gives(0, 0, 0, 0, 0);
+    Scene more = Scene.ofSteps(full + "; PUSH 0").member(0, 1, "PUSH 5; GIVE").member(0, 2, "THROW 10");
+    more.throwsOut(0, 0, 0, 0, 8);
+  }
+
+  private static final String FIVE = "PUSH 1; PUSH 2; PUSH 3; PUSH 4; PUSH 5; ";
+
+  /** Each code with just what it takes, and with as many numbers as may be. */
+  private static void heights() {
+    for (String code : new String[] {"PUSH 9", "ARGUMENT", "VALUE", "CALLER", "COINS", "SELF", "LOAD 0"}) {
+      leaves(code, 1);
+      leaves(FIVE + "PUSH 6; PUSH 7; " + code, 8);
+    }
+    for (String one : new String[] {"PUSH 0; SAVE 0", "PUSH 1; SKIP 1", "PUSH 0; BACK 1", "PUSH 0; DROP", "PUSH 0; TELL 1",
+        "PUSH 0; SEND 1"}) {
+      leaves(one, 0);
+      leaves(FIVE + "PUSH 6; PUSH 7; " + one, 7);
+    }
+    leaves("PUSH 0; DOUBLE", 2);
+    leaves(FIVE + "PUSH 6; PUSH 7; DOUBLE", 8);
+    for (String code : new String[] {"PLUS", "MINUS", "TIMES", "BY", "BELOW", "SAME"}) {
+      leaves("PUSH 1; PUSH 2; " + code, 1);
+      leaves(EIGHT + "; " + code, 7);
+    }
+    leaves("PUSH 1; PUSH 2; TURN", 2);
+    leaves(EIGHT + "; TURN", 8);
+    for (String five : new String[] {"", FIVE}) {
+      int below = five.isEmpty() ? 0 : 5;
+      leaves(five + "PUSH 9; PUSH 0; PUSH 0; CALL 0 1", below + 1);
+      leaves(five + "PUSH 9; PUSH 0; PUSH 0; TRY 0 1", below + 2);
+      leaves(five + "PUSH 9; PUSH 0; PUSH 0; TRY 0 2", below + 2);
+      leaves(five + "PUSH 9; PUSH 0; PUSH 0; TRY 7 0", below + 2);
+      leaves(five + "PUSH 9; PUSH 0; LOOK 0 1", below + 1);
+    }
+    leaves(EIGHT + "; DROP; DROP; PUSH 9; PUSH 0; LOOK 0 1", 7);
+  }
+
   private static void throwing() {
     Scene.throwsOut("THROW 10", 10);
     Scene.throwsOut("THROW 99", 99);
@@ -141,6 +184,7 @@ public final class StepsOfFramesTest {
     skipAndBack();
     stackSteps();
     tooLittleOrTooMuch();
+    heights();
     throwing();
     sending();
     telling();

@@ -60,6 +60,19 @@ public final class UndoTest {
     Due.is("store 1", s.x.store(1, 1), 0);
   }
 
+  /** Every store of every contract and every user's coins are put back. */
+  private static void allIsPutBack() {
+    for (int c = 0; c < 8; c++) {
+      Scene s = Scene.of(8).member(c, 0, "PUSH 1; SEND 0; PUSH 2; SEND 1; PUSH 3; SEND 2; PUSH 4; SEND 3; THROW 25");
+      s.member(c, 1, "PUSH 9; SAVE 0; PUSH 9; SAVE 1; PUSH 9; SAVE 2; PUSH 9; SAVE 3; PUSH 9; SAVE 4; PUSH 9; SAVE 5; "
+          + "PUSH 9; SAVE 6; PUSH 9; SAVE 7; THROW 26");
+      s.throwsOut(c, 0, 0, 40, 25).throwsOut(c, 1, 0, 40, 26);
+      for (int k = 0; k < 8; k++) Due.is("store " + c + " " + k, s.x.store(c, k), 0);
+      for (int user = 0; user < 4; user++) Due.is("user " + user, s.x.coins(1, user), user == 0 ? 10000 - 9 - 17 : 10000);
+      Due.is("contract " + c, s.x.coins(0, c), 0);
+    }
+  }
+
   private static void throughAll() {
     Scene s = Scene.of(3).member(2, 0, WORK + "THROW 24").member(1, 0, "PUSH 8; SAVE 0; PUSH 90; PUSH 5; PUSH 0; CALL 2 0");
     s.member(0, 0, "PUSH 8; SAVE 0; PUSH 90; PUSH 5; PUSH 0; CALL 1 0").throwsOut(0, 0, 0, 10, 24);
@@ -77,6 +90,7 @@ public final class UndoTest {
     undoneWithin();
     staysAround();
     undoneSaves();
+    allIsPutBack();
     throughAll();
     Due.end();
   }
