@@ -8,6 +8,8 @@ import java.nio.file.Path;
 import java.util.ArrayList;
 import java.util.Arrays;
 import java.util.List;
+import java.util.Map;
+import java.util.TreeMap;
 import java.util.TreeSet;
 import java.util.regex.Matcher;
 import java.util.regex.Pattern;
@@ -89,10 +91,47 @@ public final class LanguageTest {
     while (library.find()) holds(library.group(), callable.contains(library.group(2)));
   }
 
+  /** The bodies of the methods by their names; methods of the same name are taken as one, which can only be stricter. */
+  private static Map<String, String> bodies(String source) {
+    Map<String, String> bodies = new TreeMap<>();
+    Matcher method = Pattern.compile("(?ms)^( +)(?:(?:public|private|static|final) )*\\w+(?:\\[\\])? (\\w+)\\([^)]*\\) \\{\n(.*?)^\\1\\}")
+        .matcher(source);
+    while (method.find()) {
+      if (List.of("if", "for", "while", "switch").contains(method.group(2))) continue;
+      holds(method.group(2) + " has at most sixty lines", method.group(3).split("\n").length <= 60);
+      bodies.merge(method.group(2), method.group(3), String::concat);
+    }
+    return bodies;
+  }
+
+  /** How many methods the longest chain of calls from this one has in which none comes twice. */
+  private static int longestChain(String name, Map<String, String> bodies, List<String> open) {
+    if (open.contains(name)) return 0;
+    open.add(name);
+    int longest = 0;
+    Matcher call = Pattern.compile("\\b(\\w+)\\(").matcher(bodies.get(name));
+    while (call.find())
+      if (bodies.containsKey(call.group(1))) longest = Math.max(longest, longestChain(call.group(1), bodies, open));
+    open.remove(name);
+    return 1 + longest;
+  }
+
+  private static void methods() throws IOException {
+    String source = Files.readString(SOURCE);
+    holds("texts of characters 0 to 255", source.chars().allMatch(c -> c <= 255));
+    Map<String, String> bodies = bodies(withoutComments(source));
+    for (String signature : FACE) {
+      String name = signature.substring(0, signature.indexOf('('));
+      holds(name + " has a body", bodies.containsKey(name));
+      if (bodies.containsKey(name)) holds("calls go at most eight deep from " + name, longestChain(name, bodies, new ArrayList<>()) <= 8);
+    }
+  }
+
   public static void main(String[] args) throws IOException {
     face();
     classes();
     words();
+    methods();
     Due.end();
   }
 }
